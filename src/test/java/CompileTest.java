@@ -12,6 +12,7 @@ public final class CompileTest {
         syntaxBeforeSize();
         faultyCompileLeavesNoPattern();
         resultIsForgottenTokensStay();
+        manyInARow();
         Check.finish();
     }
 
@@ -191,5 +192,22 @@ public final class CompileTest {
         Check.due("find(0)", matcher.find(0), true);
         Check.spans("the same pattern", matcher, 0, 1, 0, 1);
         Check.due("wipe()", matcher.wipe(), 3);
+    }
+
+    private static void manyInARow() {
+        LazyTaggedMatcher matcher = new LazyTaggedMatcher();
+        Notation.addTokens(matcher, nested(7, "a{4,4}", "{4,4}"));
+        for (int i = 0; i < 100; i++) {
+            Check.due("LARGE " + i + ": compile()", matcher.compile(), LARGE);
+            Check.due("LARGE " + i + ": place()", matcher.place(), 23);
+        }
+        Notation.compile(matcher, "((a)|(b))*");
+        Notation.addText(matcher, "ab");
+        for (int i = 0; i < 50; i++) {
+            Check.due("OK " + i + ": compile()", matcher.compile(), OK);
+            Check.due("OK " + i + ": place()", matcher.place(), -1);
+        }
+        Check.due("at last: whole()", matcher.whole(), true);
+        Check.spans("at last", matcher, 0, 2, 1, 2, 0, 1, 1, 2);
     }
 }

@@ -76,16 +76,25 @@ public final class FindTest {
     }
 
     private static void wrongGroup() {
+        LazyTaggedMatcher noted = Notation.matcher("(a)(b)(c)", "dabc");
+        Check.due("find(0)", noted.find(0), true);
+        for (int i = 1; i <= 70; i++) {
+            noSuchGroup(noted, -i);
+            noSuchGroup(noted, 3 + i);
+        }
+        noSuchGroup(noted, Integer.MIN_VALUE);
+        noSuchGroup(noted, Integer.MAX_VALUE);
+        Check.spans("all noted", noted, 1, 4, 1, 2, 2, 3, 3, 4);
         LazyTaggedMatcher matcher = Notation.matcher("(a)(b)?", "a");
         Check.due("find(0)", matcher.find(0), true);
-        int[] wrong = {-1, -2, 4, 5, 64, Integer.MIN_VALUE, Integer.MAX_VALUE};
-        for (int g : wrong) {
-            Check.due("group(" + g + ", false)", matcher.group(g, false), -1);
-            Check.due("group(" + g + ", true)", matcher.group(g, true), -1);
-        }
         Check.spans("not noted", matcher, 0, 1, 0, 1);
         LazyTaggedMatcher last = Notation.matcher(".*()()($)", "abcdabcdabcdabcdabcdabcdabcdabcd");
         Check.due("32: find(0)", last.find(0), true);
         Check.spans("32", last, 0, 32, 32, 32, 32, 32, 32, 32);
+    }
+
+    private static void noSuchGroup(LazyTaggedMatcher matcher, int g) {
+        Check.due("group(" + g + ", false)", matcher.group(g, false), -1);
+        Check.due("group(" + g + ", true)", matcher.group(g, true), -1);
     }
 }
