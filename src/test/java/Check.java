@@ -1,16 +1,22 @@
 /** Counts the answers that are not as due, and ends a test with exit code 1 if there was one. */
 final class Check {
+    private static String sentence = "";
     private static int asked = 0;
     private static int wrong = 0;
 
     private Check() {
     }
 
+    /** The words of the document that the answers from here on are asked for; they are printed with a wrong answer. */
+    static void sentence(String words) {
+        sentence = words + "\n    ";
+    }
+
     static void due(String what, long got, long want) {
         asked++;
         if (got != want) {
             wrong++;
-            System.out.println(what + " answered " + got + ", due is " + want);
+            System.out.println(sentence + what + " answered " + got + ", due is " + want);
         }
     }
 
